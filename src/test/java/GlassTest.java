@@ -401,6 +401,12 @@ public final class GlassTest {
         Check.due("plan(7)", g.plan(7), 4);
         g.colour(1, 0, 649);
         Check.due("just out of reach", g.plan(3), 4);
+        for (int colour = 0; colour < 8; colour++) {
+            g.colour(colour, 0, 800 - 100 * colour);
+            g.colour(colour, 1, 3);
+        }
+        Check.due("none in reach of another", g.plan(255), 16);
+        Check.due("the last", g.heat(255, 15), 150);
         g.rule(0, 1);
         Check.due("nothing to fill", g.plan(255), 0);
         Check.due("plan(256)", g.plan(256), OUTSIDE);

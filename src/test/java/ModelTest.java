@@ -7,12 +7,14 @@ public final class ModelTest {
 
     private final Random chance;
     private final int wild;
+    private final boolean wide;
     private final GlassWires g = new GlassWires();
     private final Model m = new Model();
 
     private ModelTest(int seed) {
         chance = new Random(seed);
         wild = seed % 4 == 0 ? 6 : 40;
+        wide = seed % 25 == 1;
     }
 
     public static void main(String[] args) {
@@ -24,7 +26,7 @@ public final class ModelTest {
     }
 
     private void run() {
-        int w = 2 + chance.nextInt(5), h = 2 + chance.nextInt(4);
+        int w = wide ? 8 : 2 + chance.nextInt(5), h = wide ? 8 : 2 + chance.nextInt(4);
         same("plate(" + w + ", " + h + ")", g.plate(w, h), m.plate(w, h));
         for (int i = 0; i < CALLS && Check.wrong() == 0; i++) {
             if (chance.nextInt(3) == 0) {
@@ -60,7 +62,7 @@ public final class ModelTest {
     /** What makes later answers worth asking for: wires that are good, glass, firings, rods. */
     private void build() {
         int what = chance.nextInt(10);
-        if (what < 4 && m.count(1) < 12) {
+        if (what < 4 && m.count(1) < (wide ? 40 : 12)) {
             drawWire();
         } else if (what < 7) {
             int cell = aCell(), colour = chance.nextInt(8), v = 1 + chance.nextInt(25);
@@ -76,7 +78,7 @@ public final class ModelTest {
 
     private void drawWire() {
         same("blank()", g.blank(), m.blank());
-        int x = chance.nextInt(6), y = chance.nextInt(6);
+        int x = chance.nextInt(wide ? 9 : 6), y = chance.nextInt(wide ? 9 : 6);
         StringBuilder moves = new StringBuilder();
         int length = 1 + chance.nextInt(chance.nextInt(8) == 0 ? 26 : 8);
         for (int tries = 0; moves.length() < length && tries < 200; tries++) {

@@ -14,6 +14,7 @@ public final class PullTest {
         cool();
         harms();
         safe();
+        greatest();
         Check.end();
     }
 
@@ -118,11 +119,20 @@ public final class PullTest {
         g.colour(0, 2, 99);
         Check.due("99 is too little", g.straight(1), 99);
         Check.due("of like bows the least", uneven().straight(1), 2);
+        Check.due("1 on all fields, PULL 1", thinAllOver().straight(0), 1);
         Check.due("no glass", new GlassWires().straight(0), 0);
         Check.due("straight(8)", g.straight(8), UNKNOWN);
         Check.due("straight(-1)", g.straight(-1), UNKNOWN);
         Check.due("straight(LOW)", g.straight(LOW), UNKNOWN);
         Check.due("straight(TOP)", g.straight(TOP), UNKNOWN);
+    }
+
+    private static GlassWires thinAllOver() {
+        GlassWires g = new GlassWires();
+        g.colour(0, 2, 1);
+        g.fill(0, 0, 1);
+        g.fire(700);
+        return g;
     }
 
     private static void strain() {
@@ -272,5 +282,38 @@ public final class PullTest {
     private static void safeIs(GlassWires g, int cell, int colour, int least, int greatest) {
         Check.due("safe(" + cell + ", " + colour + ", 0)", g.safe(cell, colour, 0), least);
         Check.due("safe(" + cell + ", " + colour + ", 1)", g.safe(cell, colour, 1), greatest);
+    }
+
+    /** As much glass as there may be, on the greatest plate. */
+    private static void greatest() {
+        Check.of("32 to 37, the greatest");
+        GlassWires g = new GlassWires();
+        g.plate(8, 8);
+        g.colour(0, 1, 0);
+        g.colour(0, 2, 99);
+        for (int i = 0; i < 12; i++) {
+            Check.due("fill " + i, g.fill(0, 0, 99), 64);
+        }
+        Check.due("fire(700)", g.fire(700), 768);
+        Check.due("count(5)", g.count(5), 768);
+        Check.due("state(3)", g.state(3), 64);
+        Check.due("pull(0)", g.pull(0), 7527168);
+        Check.due("bow(0)", g.bow(0), 117612);
+        g.rule(1, 1);
+        Check.due("bow(1)", g.bow(1), 117612);
+        Check.due("strain(999, 0)", g.strain(999, 0), 117494);
+        Check.due("straight(0)", g.straight(0), 99);
+        Check.due("cooling(999)", g.cooling(999), NONE);
+        g.rule(2, 117);
+        Check.due("it bears 117", g.cooling(999), 999);
+        g.rule(2, 116);
+        Check.due("it bears 116", g.cooling(999), NONE);
+        Check.due("harms(0, 999)", g.harms(0, 999), 0);
+        Check.due("safe(0, 0, 1)", g.safe(0, 0, 1), 999);
+        Check.due("polish()", g.polish(), 64 * (12 * 99 - 20));
+        Check.due("layers are left", g.count(5), 64);
+        Check.due("empty(0)", g.empty(0), 64);
+        g.back(0, 99);
+        Check.due("the back alone", g.bow(0), -9801);
     }
 }
