@@ -1233,6 +1233,7 @@ public final class GlassWires {
 
         void clear() {
             Arrays.fill(layers, 0);
+            firings = 0;
         }
 
         int firings() {

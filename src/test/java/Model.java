@@ -119,6 +119,7 @@ final class Model {
         rods.clear();
         backColour = 0;
         backThick = 0;
+        firings = 0;
         clearGlass();
         return w * h;
     }

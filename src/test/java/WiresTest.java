@@ -68,6 +68,7 @@ public final class WiresTest {
         }
         Check.due("a refusal changes nothing", g.digest(), newDigest(2, 2));
         plateTakesAway();
+        plateForgetsFirings();
     }
 
     private static void plateTakesAway() {
@@ -90,7 +91,7 @@ public final class WiresTest {
         Check.due("rods", g.count(4), 0);
         Check.due("layers", g.count(5), 0);
         Check.due("pull(1)", g.pull(1), 0);
-        Check.due("firings are not among what goes", g.state(5), 1);
+        Check.due("firings go with the glass", g.state(5), 0);
         Check.due("HEAT stays", g.colour(1, 0, 700), 640);
         Check.due("foes stay", g.foes(2, 1, false), 1);
         Check.due("WALL stays", g.rule(0, 20), 33);
@@ -101,6 +102,22 @@ public final class WiresTest {
         Check.due("no layer is left", g.layer(0, 0, 0, 0), NONE);
         Check.due("a new wire is number 0", Check.draw(g, 0, 0, "r"), 0);
         Check.due("a new kind of rods is number 0", g.rod(1, 1), 0);
+    }
+
+    /** Told by state and by digest, also where there was no glass to fire. */
+    private static void plateForgetsFirings() {
+        GlassWires g = new GlassWires();
+        g.fire(1);
+        g.fire(999);
+        g.plate(2, 9);
+        Check.due("a refused plate keeps the firings", g.state(5), 2);
+        g.empty(0);
+        Check.due("so does a cell that is emptied", g.state(5), 2);
+        Check.due("plate(2, 2)", g.plate(2, 2), 4);
+        Check.due("firings behind a plate", g.state(5), 0);
+        Check.due("as on a new object", g.digest(), newDigest(2, 2));
+        g.fire(1);
+        Check.due("they are counted from 0 again", g.state(5), 1);
     }
 
     private static void letters() {
