@@ -1,5 +1,11 @@
+import java.util.function.IntUnaryOperator;
+import java.util.function.LongSupplier;
+
 /** What the tests of the project share: answers compared, and calls told shortly. */
 final class Check {
+    /** Moves to and fro, as many as a page holds. */
+    static final String TO_AND_FRO = "rlrlrlrlrlrlrlrlrlrlrlrlrlrlrlrlrlrlrlrl";
+
     private static final int LETTERS_AT_ONCE = 8;
 
     private static String about = "";
@@ -24,6 +30,20 @@ final class Check {
 
     static void holds(String what, boolean is) {
         due(what, is ? 1 : 0, 1);
+    }
+
+    /** An answer that leaves all as it was: a refusal, or a question. */
+    static void keeps(GlassWires g, String call, long want, LongSupplier ask) {
+        long told = g.digest();
+        due(call, ask.getAsLong(), want);
+        due(call + " changes nothing: digest()", g.digest(), told);
+    }
+
+    /** The same answer for each of these numbers, and all stays as it was. */
+    static void keepsEach(GlassWires g, String call, int want, IntUnaryOperator ask, int... numbers) {
+        for (int number : numbers) {
+            keeps(g, call + " of " + number, want, () -> ask.applyAsInt(number));
+        }
     }
 
     static int wrong() {
@@ -62,6 +82,24 @@ final class Check {
         g.blank();
         write(g, moves);
         return g.wire(x, y);
+    }
+
+    static GlassWires plateOf(int w, int h) {
+        GlassWires g = new GlassWires();
+        g.plate(w, h);
+        return g;
+    }
+
+    /** Wires along all lines inside, first those that go up: each field is a cell. */
+    static GlassWires gridOf(int w, int h) {
+        GlassWires g = plateOf(w, h);
+        for (int x = 1; x < w; x++) {
+            draw(g, x, 0, "uuuuuuuu".substring(0, h));
+        }
+        for (int y = 1; y < h; y++) {
+            draw(g, 0, y, "rrrrrrrr".substring(0, w));
+        }
+        return g;
     }
 
     /** What digest makes of these numbers. */
