@@ -59,6 +59,7 @@ public final class GlassBoundsTest {
     private static void termsOfBleeding() {
         bleedsBetweenTwoFields();
         bleedsByUpmostLayersOfBoth();
+        emptyFieldsBesideFullOnesDoNotBleed();
         bleedsWhereNoSolderedWireCovers();
     }
 
@@ -101,6 +102,7 @@ public final class GlassBoundsTest {
         polishTakesAllAboveWall();
         polishTakesLayersOfWhichNothingIsLeft();
         stateOfWhatIsNot();
+        stateOfLayersInOneField();
         stateOfFieldsAtWall();
         firingsAreCounted();
     }
@@ -502,6 +504,21 @@ public final class GlassBoundsTest {
         Check.due("emptied", g.state(4), 0);
     }
 
+    private static void emptyFieldsBesideFullOnesDoNotBleed() {
+        Check.of("upmost LAYERS (of both): one field has 12, the next none");
+        GlassWires g = Check.gridOf(2, 2);
+        g.foes(1, 2, true);
+        for (int i = 0; i < 12; i++) {
+            g.fill(0, 1, 1);
+        }
+        g.fill(3, 2, 1);
+        Check.due("state(4)", g.state(4), 0);
+        g.fill(1, 1, 1);
+        Check.due("one that is there", g.state(4), 1);
+        g.empty(1);
+        Check.due("taken out", g.state(4), 0);
+    }
+
     private static void bleedsWhereNoSolderedWireCovers() {
         Check.of("and which no SOLDERED WIRE COVERS");
         GlassWires g = twoCells();
@@ -684,6 +701,20 @@ public final class GlassBoundsTest {
         g.lay(0, false);
         g.lay(1, false);
         Check.due("emptied", g.fill(0, 0, 1), 4);
+        for (int full = 0; full < 4; full++) {
+            fullByOneField(full);
+        }
+    }
+
+    /** Whichever field of the cell it is. */
+    private static void fullByOneField(int full) {
+        GlassWires g = Check.gridOf(2, 2);
+        for (int i = 0; i < 12; i++) {
+            g.fill(full, 0, 1);
+        }
+        g.lay(0, false);
+        g.lay(1, false);
+        Check.keeps(g, "field " + full + " has 12", FULL, () -> g.fill(0, 0, 1));
     }
 
     private static void fillRefusedInOrder() {
@@ -796,6 +827,8 @@ public final class GlassBoundsTest {
         }
         Check.due("all", g.fire(700), 768);
         Check.due("none again", g.fire(700), 0);
+        Check.due("state(1)", g.state(1), 768);
+        Check.due("state(3)", g.state(3), 64);
     }
 
     private static void polishOfNothing() {
@@ -845,6 +878,31 @@ public final class GlassBoundsTest {
         GlassWires g = new GlassWires();
         Check.keepsEach(g, "state", OUTSIDE, g::state, -1, 6, LOW, TOP);
         Check.keepsEach(g, "at first", 0, g::state, 0, 1, 2, 3, 4, 5);
+    }
+
+    private static void stateOfLayersInOneField() {
+        Check.of("27 How many: raw, fired, burnt LAYERS, of all and of each FIELD");
+        GlassWires g = Check.gridOf(2, 2);
+        for (int colour = 0; colour < 3; colour++) {
+            g.colour(colour, 0, 500 + 100 * colour);
+        }
+        g.fill(0, 0, 1);
+        g.fill(0, 1, 1);
+        g.fill(0, 2, 1);
+        g.fill(3, 2, 1);
+        g.fill(2, 1, 1);
+        g.fill(2, 1, 1);
+        g.fire(600);
+        Check.due("raw", g.state(0), 2);
+        Check.due("fired", g.state(1), 3);
+        Check.due("burnt", g.state(2), 1);
+        g.fire(700);
+        Check.due("no raw ones", g.state(0), 0);
+        Check.due("fired", g.state(1), 2);
+        Check.due("burnt", g.state(2), 4);
+        g.fire(999);
+        Check.due("none is fired", g.state(1), 0);
+        Check.due("all are burnt", g.state(2), 6);
     }
 
     private static void stateOfFieldsAtWall() {

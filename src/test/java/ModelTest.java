@@ -2,7 +2,9 @@ import java.util.Random;
 
 /** Runs of calls by chance (always the same ones), each answer compared with the model's. */
 public final class ModelTest {
-    private static final int RUNS = 500, CALLS = 180, CALLS_OF_ALL = 43;
+    private static final int RUNS = 700, CALLS_OF_ALL = 43;
+    /** What an object answers behind its 512th call is free; one turn asks for some 40 at most. */
+    private static final int MOST_CALLS = 512 - 50;
     private static final int[] EXTREMES = {Integer.MIN_VALUE, Integer.MAX_VALUE, -1, 64, 1000, 10000};
 
     private final Random chance;
@@ -10,6 +12,7 @@ public final class ModelTest {
     private final boolean wide;
     private final GlassWires g = new GlassWires();
     private final Model m = new Model();
+    private int calls = 0;
 
     private ModelTest(int seed) {
         chance = new Random(seed);
@@ -28,7 +31,7 @@ public final class ModelTest {
     private void run() {
         int w = wide ? 8 : 2 + chance.nextInt(5), h = wide ? 8 : 2 + chance.nextInt(4);
         same("plate(" + w + ", " + h + ")", g.plate(w, h), m.plate(w, h));
-        for (int i = 0; i < CALLS && Check.wrong() == 0; i++) {
+        while (calls < MOST_CALLS && Check.wrong() == 0) {
             if (chance.nextInt(3) == 0) {
                 build();
             } else {
@@ -38,7 +41,8 @@ public final class ModelTest {
         }
     }
 
-    private static void same(String call, long got, long want) {
+    private void same(String call, long got, long want) {
+        calls++;
         Check.due(call, got, want);
     }
 
@@ -95,6 +99,7 @@ public final class ModelTest {
         m.blank();
         writeModel(moves.toString());
         Check.write(g, moves.toString());
+        calls += 1 + (moves.length() + 7) / 8;
         same("wire(" + x + ", " + y + ") of " + moves, g.wire(x, y), m.wire(x, y));
     }
 

@@ -266,6 +266,13 @@ public final class PullBoundsTest {
 
     private static void harmedOnlyWhereTheUpmostIsFired() {
         Check.of("whose upmost LAYER is fired");
+        GlassWires full = Check.gridOf(2, 2);
+        full.rule(0, 99);
+        for (int i = 0; i < 12; i++) {
+            full.fill(0, 0, 1);
+        }
+        full.fire(700);
+        Check.due("a full one, none beside it", full.harms(3, 999), 1);
         GlassWires g = Check.gridOf(2, 2);
         Check.due("no glass", g.harms(0, 999), 0);
         g.fill(3, 0, 5);
@@ -313,6 +320,11 @@ public final class PullBoundsTest {
         safeIs(g, 0, 2, 500, 550);
         g.colour(7, 0, 1);
         safeIs(g, 0, 7, 1, 550);
+        g.empty(1);
+        g.empty(2);
+        safeIs(g, 0, 7, 1, 999);
+        safeIs(g, 1, 7, 1, 750);
+        safeIs(g, 2, 7, 1, 750);
     }
 
     private static void safeUpTo999() {
@@ -483,6 +495,12 @@ public final class PullBoundsTest {
         g.rule(2, 1);
         g.colour(0, 2, 24);
         Check.due("steps of 1 again", g.cooling(999), 999);
+        GlassWires just = bowed(93, 43);
+        just.rule(2, 3);
+        Check.due("1 times 3999 by 1000 is 3", just.cooling(999), 999);
+        just.colour(0, 2, 50);
+        just.back(0, 80);
+        Check.due("1 times 4000 by 1000 is 4", just.cooling(999), NONE);
         GlassWires zero = bowed(80, 25);
         zero.rule(2, 1);
         Check.due("from 0 no step is needed", zero.cooling(0), 0);

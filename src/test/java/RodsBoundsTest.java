@@ -47,6 +47,7 @@ public final class RodsBoundsTest {
         countOfNoneAndOfAll();
         digestOfAnEmptyPlate();
         digestOfTheLeastOfEach();
+        digestOfLayersByFields();
         digestWraps();
     }
 
@@ -340,6 +341,23 @@ public final class RodsBoundsTest {
         numbers.set(2, 0);
         numbers.set(3, 1);
         Check.due("lifted and soldered", g.digest(), mixed(numbers));
+    }
+
+    private static void digestOfLayersByFields() {
+        Check.of("43 of each FIELD by number of its LAYERS from below COLOUR, THICK, 0 to 2");
+        GlassWires g = Check.gridOf(2, 2);
+        g.fill(3, 6, 50);
+        g.fill(1, 5, 10);
+        g.fire(700);
+        g.fill(1, 4, 3);
+        g.fire(751);
+        g.fill(1, 3, 4);
+        List<Integer> numbers = new ArrayList<>(List.of(2, 2, 1, 0, 1, 11, 21, 1, 0, 10, 11, 12));
+        addColours(numbers, 700, 3, 10, 0);
+        numbers.addAll(List.of(20, 20, 50));
+        numbers.addAll(List.of(5, 7, 2, 4, 3, 2, 3, 4, 0, 6, 20, 2));
+        numbers.addAll(List.of(0, 0, 2));
+        Check.due("none in 0 and 2, three in 1, one in 3", g.digest(), mixed(numbers));
     }
 
     private static void addColours(List<Integer> numbers, int heat, int shrink, int pull, int foes) {

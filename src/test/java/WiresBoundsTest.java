@@ -37,6 +37,7 @@ public final class WiresBoundsTest {
         theFirstMoveIsNoBend();
         aBendMakesAWireStand();
         laidAtFirst();
+        aNumberIsUsedAgainBehindAPlate();
         onlyLaidWiresCount();
     }
 
@@ -48,7 +49,9 @@ public final class WiresBoundsTest {
         aFreeEndHasJustOneEdge();
         aJointNeedsTwoWires();
         aDoubleEdgeNeedsTwoWires();
+        edgesOfTheRimAreCoveredToo();
         wiresAreHeldFromWireToWire();
+        wiresAreHeldByEachOfTheirPoints();
         aLiftedWireHoldsNone();
     }
 
@@ -59,6 +62,7 @@ public final class WiresBoundsTest {
         setsHangTogetherByPoints();
         cellsThatMeetAtACornerMayBeAlike();
         theFirstWayWithSoFew();
+        paintsFollowTheWires();
     }
 
     private static void promisesOfThePlateAndThePage() {
@@ -284,6 +288,20 @@ public final class WiresBoundsTest {
         Check.due("where a lifted one had its number", g.lay(0, true), 1);
     }
 
+    private static void aNumberIsUsedAgainBehindAPlate() {
+        Check.of("A WIRE that has the number of one that went has nothing of it");
+        GlassWires g = new GlassWires();
+        Check.draw(g, 0, 0, "rrurd");
+        g.plate(4, 4);
+        Check.draw(g, 1, 1, "r");
+        int[] due = {1, 0, 0, 1, 1};
+        for (int what = 0; what < due.length; what++) {
+            Check.due("about(0, " + what + ")", g.about(0, what), due[what]);
+        }
+        Check.due("point(0, 1)", g.point(0, 1), 12);
+        Check.due("point(0, 2)", g.point(0, 2), NONE);
+    }
+
     private static void onlyLaidWiresCount() {
         Check.of("all that follows is by laid ones");
         GlassWires g = new GlassWires();
@@ -432,6 +450,23 @@ public final class WiresBoundsTest {
         Check.due("one again", g.many(2), 0);
     }
 
+    private static void edgesOfTheRimAreCoveredToo() {
+        Check.of("An EDGE, a JOINT at the rim counts as others do");
+        GlassWires g = Check.plateOf(3, 2);
+        int[][] begins = {{0, 0}, {3, 0}, {3, 2}, {0, 2}};
+        String[] moves = {"r", "u", "l", "d"};
+        for (int corner = 0; corner < 4; corner++) {
+            Check.draw(g, begins[corner][0], begins[corner][1], moves[corner]);
+            Check.draw(g, begins[corner][0], begins[corner][1], moves[corner]);
+            Check.due("COVERED EDGES", g.many(4), corner + 1);
+            Check.due("DOUBLE EDGES", g.many(2), corner + 1);
+            Check.due("JOINTS", g.many(1), 2 * corner + 2);
+            Check.due("PIECES", g.many(5), corner + 1);
+        }
+        endsAre(g, 1, 0, 1, 3, 10, 13, 20, 22, 23, NONE);
+        endsAre(g, 0, NONE);
+    }
+
     /** One after the other, the one that stands last: a wire of one move each, in rows to and fro. */
     private static GlassWires longChain() {
         GlassWires g = Check.plateOf(8, 8);
@@ -465,6 +500,24 @@ public final class WiresBoundsTest {
         Check.due("one that stands does not float", s.about(0, 4), 0);
         Check.draw(s, 1, 2, "l");
         Check.due("one beside it, without a joint", s.about(1, 4), 1);
+    }
+
+    private static void wiresAreHeldByEachOfTheirPoints() {
+        Check.of("reached by JOINTS: the first POINT of a WIRE, its last, and those between");
+        for (int i = 0; i <= 2; i++) {
+            GlassWires byBegin = new GlassWires();
+            Check.draw(byBegin, 1, 1, "rr");
+            Check.draw(byBegin, 1 + i, 1, "du");
+            Check.due("point " + i + ", the other's first", byBegin.about(0, 4), 0);
+            GlassWires byMiddle = new GlassWires();
+            Check.draw(byMiddle, 1, 1, "rr");
+            Check.draw(byMiddle, 1 + i, 0, "ud");
+            Check.due("point " + i + ", between the other's", byMiddle.about(0, 4), 0);
+            GlassWires byEnd = new GlassWires();
+            Check.draw(byEnd, 1, 1, "rr");
+            Check.draw(byEnd, i, 2, "rd");
+            Check.due("point " + i + ", the other's last", byEnd.about(0, 4), 0);
+        }
     }
 
     private static void aLiftedWireHoldsNone() {
@@ -523,6 +576,11 @@ public final class WiresBoundsTest {
         Check.due("a line one point away", g.many(5), 2);
         Check.draw(g, 2, 2, "r");
         Check.due("joined", g.many(5), 1);
+        GlassWires rings = new GlassWires();
+        Check.draw(rings, 0, 0, "ruld");
+        Check.draw(rings, 1, 2, "rrulld");
+        Check.due("a ring and a greater one", rings.many(5), 2);
+        Check.due("asked again", rings.many(5), 2);
     }
 
     private static void cellsThatMeetAtACornerMayBeAlike() {
@@ -550,6 +608,40 @@ public final class WiresBoundsTest {
         for (int[] one : due) {
             Check.due("paint(" + one[0] + ")", g.paint(one[0]), one[1]);
         }
+    }
+
+    private static void paintsFollowTheWires() {
+        Check.of("PAINTS of the CELLS as they are now");
+        GlassWires g = Check.gridOf(3, 2);
+        Check.due("paint(5), asked for first", g.paint(5), 1);
+        Check.due("paints()", g.paints(), 2);
+        g.lay(1, false);
+        Check.due("two columns are one: paint(4)", g.paint(4), 0);
+        g.lay(0, false);
+        Check.due("rows: paint(3)", g.paint(3), 1);
+        g.lay(2, false);
+        Check.due("one cell", g.paints(), 1);
+        Check.due("paint(0)", g.paint(0), 0);
+        g.lay(0, true);
+        Check.due("two cells: paint(1)", g.paint(1), 1);
+        Check.due("paints()", g.paints(), 2);
+        GlassWires ring = ringInThree();
+        Check.due("a middle with three round it", ring.paints(), 4);
+        for (int wire = 1; wire < 4; wire++) {
+            ring.lay(wire, false);
+        }
+        Check.due("with one", ring.paints(), 2);
+        ring.lay(0, false);
+        Check.due("no wire", ring.paints(), 1);
+    }
+
+    private static GlassWires ringInThree() {
+        GlassWires g = Check.plateOf(3, 3);
+        Check.draw(g, 1, 1, "ruld");
+        Check.draw(g, 2, 0, "u");
+        Check.draw(g, 0, 1, "r");
+        Check.draw(g, 2, 2, "u");
+        return g;
     }
 
     // ---- promises 1 to 5: the plate and the page
